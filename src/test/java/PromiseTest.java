@@ -27,6 +27,7 @@ public final class PromiseTest {
         clearText();
         perform();
         faults();
+        textAfterText();
         stopped();
         undo();
         historyOfActs();
@@ -37,10 +38,13 @@ public final class PromiseTest {
         possible();
         look();
         lookTurnsRound();
+        lookChangesNothing();
         best();
+        bestByWorth();
         levels();
         made();
         count();
+        safeMoves();
         drawn();
         whoLoses();
         CHECK.end("PromiseTest");
@@ -289,6 +293,12 @@ public final class PromiseTest {
         due("undo", x.undo(), 1);
         due("undone", x.count(1), -1);
 
+        x.begin();
+        x.setUp(1, 6);
+        due("the first move of all is the best", x.best(1), 144);
+        due("play", x.play(1), 0);
+        due("it lies there", x.at(-6, 2), 1);
+
         TippingBeam y = new TippingBeam();
         emptyBag(y, 0);
         due("none", y.play(1), NOT_POSSIBLE);
@@ -436,9 +446,19 @@ public final class PromiseTest {
         x.lay(5, 2);
         x.push(3, false);
         x.keep();
+        x.set(0, 1);
+        for (int place = -6; place <= 6; place++) {
+            x.setUp(1, place);
+        }
+        due("begin on a beam with tokens on each place", x.begin(), 13);
+        x.set(0, 2);
+        x.restore();
         due("begin", x.begin(), 3);
         counts("begun", x, 0, 0, 0, 0, 0, 0, 0, 0, 0);
         due("greatest turn", x.count(10), 0);
+        for (int place = -6; place <= 6; place++) {
+            due("nothing on " + place, x.at(place, 0), place == 0 ? UNKNOWN : 0);
+        }
         due("limit stays", x.count(12), 30);
         due("moving stays", x.count(13), 1);
         due("bag 0 stays", x.bag(0, 5), 1);
@@ -573,6 +593,19 @@ public final class PromiseTest {
             tooLong.append("1@1;");
         }
         performs(x, tooLong.toString(), FAULT - 60);
+    }
+
+    /** What was read of one text does not colour the next one. */
+    private static void textAfterText() {
+        TippingBeam x = new TippingBeam();
+        performs(x, "-1", FAULT - 2);
+        performs(x, "1@1", 1);
+        due("laid onto 1", x.at(1, 0), 1);
+        performs(x, "2@-3", 1);
+        performs(x, "2@3;1@-1;3@1", 3);
+        due("laid onto 3", x.at(3, 0), 1);
+        due("laid onto -1", x.at(-1, 0), 1);
+        due("laid onto 1", x.at(1, 2), 3);
     }
 
     // -- Promise 12
@@ -900,6 +933,47 @@ public final class PromiseTest {
         due("1 and 1 tip together", y.look(2), 1);
     }
 
+    private static void lookChangesNothing() {
+        TippingBeam x = new TippingBeam();
+        x.set(2, 1);
+        x.lay(2, 3);
+        x.lay(1, -6);
+        x.push(3, false);
+        String before = all(x);
+        for (int depth = 0; depth <= 3; depth++) {
+            x.look(depth);
+            due("look(" + depth + ") changes nothing", all(x).equals(before) ? 1 : 0, 1);
+            x.best(depth);
+            due("best(" + depth + ") changes nothing", all(x).equals(before) ? 1 : 0, 1);
+        }
+        due("4 is that to which a token was moved", x.push(4, true), NO_MOVE - 3);
+        x.set(1, 1);
+        due("0 made the last move", x.count(2), 2);
+        x.set(1, 8);
+        x.look(2);
+        x.set(1, 1);
+        due("0 made the last move, behind a look ahead, too", x.count(2), 2);
+    }
+
+    private static String all(TippingBeam x) {
+        StringBuilder all = new StringBuilder();
+        for (int what = 0; what <= 16; what++) {
+            all.append(x.count(what)).append(' ');
+        }
+        for (int place = -6; place <= 6; place++) {
+            for (int what = 0; what <= 7; what++) {
+                all.append(x.at(place, what)).append(' ').append(x.reason(what, place)).append(' ');
+            }
+        }
+        for (int weight = 0; weight <= 5; weight++) {
+            all.append(x.bag(0, weight)).append(' ').append(x.bag(1, weight)).append(' ');
+        }
+        for (int what = 0; what <= 3; what++) {
+            all.append(x.made(0, what)).append(' ');
+        }
+        return all.toString();
+    }
+
     // -- Promise 21
 
     private static void best() {
@@ -946,6 +1020,44 @@ public final class PromiseTest {
         due("laying a 5 is all there is", z.best(1), 549);
         z.set(2, 1);
         due("moving is nearer to 0", z.best(1), 644);
+    }
+
+    /** The look ahead comes ahead of the turn. */
+    private static void bestByWorth() {
+        TippingBeam x = new TippingBeam();
+        emptyBag(x, 0);
+        emptyBag(x, 1);
+        x.setBag(0, 1, 1);
+        x.setBag(1, 2, 1);
+        x.set(1, 3);
+        // Whatever 0 lays within the limit, 1 has a place for its 2, and it is drawn.
+        due("nothing is won", x.look(3), 0);
+        due("the nearest", x.best(3), 149);
+        x.set(0, 1);
+        x.setUp(1, -1);
+        x.setUp(1, 1);
+        due("the nearest that is free", x.best(1), 148);
+        x.setBag(1, 2, 0);
+        x.setBag(1, 5, 1);
+        // A 5 is safe at 1 or -1 alone, and both are full: each safe move wins.
+        due("the side 0 wins", x.look(2), 1);
+        due("by the nearest move that is safe", x.best(2), 148);
+        x.begin();
+        // With 2 or 3 behind it a 5 is safe at -1; with 1 at -1 or 1 it is not.
+        due("the side 0 wins", x.look(2), 1);
+        due("by 1 at -1", x.best(2), 149);
+        x.setUp(1, -1);
+        due("by 1 at 1, which levels the beam and leaves neither place free", x.best(2), 151);
+        x.setUp(1, -4);
+        due("tipped", x.best(2), NONE);
+        x.set(1, 5);
+        // The turn is -5. 1 at 5 levels the beam, but then a 5 is safe at 1. It is not with
+        // 1 at 1, which is full then, nor with 1 at 6, which is nearer to 0.
+        due("the nearest, as far as one move tells", x.best(1), 155);
+        due("the nearest of those that win", x.best(2), 156);
+        due("and so three moves ahead", x.best(3), 156);
+        due("the side 0 wins", x.look(2), 1);
+        due("one move tells nothing", x.look(1), 0);
     }
 
     // -- Promise 22
@@ -1060,6 +1172,23 @@ public final class PromiseTest {
         x.setUp(5, 6);
         due("setUp is none", x.count(10), 6);
         due("what setUp changed", x.count(5), 26);
+    }
+
+    private static void safeMoves() {
+        TippingBeam x = new TippingBeam();
+        emptyBag(x, 0);
+        x.setBag(0, 3, 1);
+        x.set(2, 1);
+        x.setUp(4, 3);
+        x.setUp(1, -5);
+        // The turn is 7. A 3 is safe from -5 to -1; moving: 4 inward, 1 outward and inward.
+        due("turn", x.count(1), 7);
+        due("possible", x.count(8), 16);
+        due("safe", x.count(9), 8);
+        x.set(1, 7);
+        due("3 at -5, and 1 inward, are beyond it", x.count(9), 6);
+        x.set(1, 6);
+        due("over", x.count(9), 0);
     }
 
     private static int safeByHand(TippingBeam x) {
