@@ -39,6 +39,7 @@ public final class PromiseTest {
         look();
         lookTurnsRound();
         lookChangesNothing();
+        lookAtOneMove();
         best();
         bestByWorth();
         levels();
@@ -451,6 +452,9 @@ public final class PromiseTest {
             x.setUp(1, place);
         }
         due("begin on a beam with tokens on each place", x.begin(), 13);
+        for (int place = -6; place <= 6; place++) {
+            due("nothing on " + place, x.at(place, 0), place == 0 ? UNKNOWN : 0);
+        }
         x.set(0, 2);
         x.restore();
         due("begin", x.begin(), 3);
@@ -613,7 +617,7 @@ public final class PromiseTest {
     private static void stopped() {
         TippingBeam x = new TippingBeam();
         due("none yet", x.stopped(0), NONE);
-        due("none yet", x.stopped(1), NONE);
+        due("none yet, for the reason", x.stopped(1), NONE);
         due("bad value first", x.stopped(2), BAD_VALUE);
         due("bad value first", x.stopped(-1), BAD_VALUE);
         performs(x, "1@1;1i", NOT_POSSIBLE);
@@ -651,8 +655,15 @@ public final class PromiseTest {
         due("undo", x.undo(), 2);
         counts("undone", x, 0, 0, 3, 0, 2, 3, 0, 2, 2);
         due("bag", x.bag(0, 1), 1);
+        due("the earlier move is told", x.made(1, 2), 1);
+        due("the later move is told", x.made(0, 2), 2);
         x.lay(1, -3);
         x.lay(1, -4);
+        x.lay(2, -1);
+        due("undo of the fifth move", x.undo(), 3);
+        for (int back = 0; back < 4; back++) {
+            due("each move is told", x.made(back, 2), new int[] {-4, -3, 2, 1}[back]);
+        }
         x.lay(2, -1);
         due("four at most", x.count(15), 4);
         for (int left = 3; left >= 0; left--) {
@@ -953,6 +964,34 @@ public final class PromiseTest {
         x.look(2);
         x.set(1, 1);
         due("0 made the last move, behind a look ahead, too", x.count(2), 2);
+        x.begin();
+        x.set(1, 8);
+        x.lay(2, 1);
+        x.lay(2, 2);
+        x.look(2);
+        x.set(1, 1);
+        due("1 made the last move, behind a look ahead, too", x.count(2), 1);
+    }
+
+    private static void lookAtOneMove() {
+        TippingBeam x = new TippingBeam();
+        x.set(0, 1);
+        x.set(1, 40);
+        for (int place = -5; place <= 6; place++) {
+            x.setUp(place == -5 || place == -1 ? 2 : 1, place);
+        }
+        emptyBag(x, 0);
+        x.setBag(0, 1, 1);
+        x.set(1, 5);
+        x.set(3, 1);
+        due("turn", x.count(1), 0);
+        due("one move", x.count(8), 1);
+        due("none is safe", x.count(9), 0);
+        due("it tips the beam and wins", x.look(1), 1);
+        due("it is the best", x.best(1), 144);
+        x.set(3, 0);
+        due("it tips the beam and loses", x.look(1), -1);
+        due("it is the best all the same", x.best(3), 144);
     }
 
     private static String all(TippingBeam x) {
@@ -1088,6 +1127,9 @@ public final class PromiseTest {
         due("too far", x.levels(1), NONE);
         x.set(1, 3);
         due("over", x.levels(2), 4);
+        x.setUp(2, -2);
+        due("turn", x.count(1), -12);
+        due("outermost", x.levels(2), 6);
         due("weight 0", x.levels(0), UNKNOWN);
         due("weight 6", x.levels(6), UNKNOWN);
         due("weight -1", x.levels(-1), UNKNOWN);
@@ -1189,6 +1231,11 @@ public final class PromiseTest {
         due("3 at -5, and 1 inward, are beyond it", x.count(9), 6);
         x.set(1, 6);
         due("over", x.count(9), 0);
+        x.begin();
+        x.setUp(1, 6);
+        x.setBag(0, 3, 0);
+        due("one can be moved inward", x.count(8), 1);
+        due("and that is safe", x.count(9), 1);
     }
 
     private static int safeByHand(TippingBeam x) {
