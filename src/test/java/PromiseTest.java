@@ -32,6 +32,7 @@ public final class PromiseTest {
         undo();
         historyOfActs();
         keepAndRestore();
+        restoreOfMoves();
         at();
         bag();
         reason();
@@ -754,6 +755,42 @@ public final class PromiseTest {
         due("keep in place of it", x.keep(), 3);
         x.begin();
         due("the later one", x.restore(), 3);
+    }
+
+    /** Moves that are made behind the snapshot take the room of those in it. */
+    private static void restoreOfMoves() {
+        TippingBeam x = new TippingBeam();
+        x.set(1, 9);
+        x.set(2, 1);
+        x.setUp(1, 1);
+        x.setUp(2, -4);
+        String toAndFro = "1o;-4o;2i;-5i";
+        for (int i = 0; i < 5; i++) {
+            performs(x, toAndFro + ";" + toAndFro, 8);
+        }
+        due("moves", x.count(3), 40);
+        x.keep();
+        x.begin();
+        x.setUp(5, 3);
+        x.set(1, 40);
+        x.setUp(5, -3);
+        for (int i = 0; i < 10; i++) {
+            x.push(3, true);
+            x.push(-3, true);
+            x.push(2, false);
+            x.push(-2, false);
+        }
+        due("other moves", x.count(3), 40);
+        due("restore", x.restore(), 2);
+        int[] places = {-5, 2, -4, 1};
+        int[] told = {2, -1, -2, 1};
+        for (int back = 0; back < 40; back++) {
+            due("side of " + back, x.made(back, 0), back % 2 == 0 ? 1 : 0);
+            due("number of " + back, x.made(back, 1), back % 4 < 2 ? 6 : 7);
+            due("place of " + back, x.made(back, 2), places[back % 4]);
+            due("told by " + back, x.made(back, 3), told[back % 4]);
+        }
+        due("no more", x.made(40, 0), NONE);
     }
 
     // -- Promise 16
