@@ -108,7 +108,7 @@ public final class TippingBeam {
             return FULL;
         }
         history.remember(beam);
-        beam.putFromNowhere(weight, place);
+        beam.putOn(weight, place);
         return beam.turn();
     }
 
@@ -476,7 +476,7 @@ public final class TippingBeam {
             return heightAt(place) >= settings[HEIGHT];
         }
 
-        private void putOn(int weight, int place) {
+        void putOn(int weight, int place) {
             int height = heightAt(place);
             if (!isPlace(place) || height < 0 || height >= MOST_HEIGHT) {
                 return;
@@ -495,10 +495,6 @@ public final class TippingBeam {
             heights[slotOf(place)] = height - 1;
             turn -= weight * place;
             return weight;
-        }
-
-        void putFromNowhere(int weight, int place) {
-            putOn(weight, place);
         }
 
         int tokens() {
@@ -630,7 +626,7 @@ public final class TippingBeam {
             side = sideBehind(side);
         }
 
-        void takeBack(int number, int place, int itsSide, int sideBefore, int movedToBefore) {
+        void takeBack(int number, int place, int itsSide, int latestSideBefore, int movedToBefore) {
             int weight = takeFrom(targetOf(number, place));
             if (number < INWARD) {
                 changeBag(itsSide, number, 1);
@@ -638,7 +634,7 @@ public final class TippingBeam {
                 putOn(weight, place);
             }
             side = itsSide;
-            latestSide = sideBefore;
+            latestSide = latestSideBefore;
             movedTo = movedToBefore;
         }
 
@@ -787,13 +783,13 @@ public final class TippingBeam {
         /** The look ahead behind a move, as it is taken for the side that makes the move. */
         private static int behind(Beam beam, int number, int place, int depth, int low, int high) {
             int side = beam.side();
-            int sideBefore = beam.latestSide();
+            int latestSideBefore = beam.latestSide();
             int movedToBefore = beam.movedTo();
             beam.tryMove(number, place);
             int value = beam.side() == side
                     ? ahead(beam, depth, low, high)
                     : -ahead(beam, depth, -high, -low);
-            beam.takeBack(number, place, side, sideBefore, movedToBefore);
+            beam.takeBack(number, place, side, latestSideBefore, movedToBefore);
             return value;
         }
     }
