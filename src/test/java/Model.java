@@ -8,7 +8,7 @@ import java.util.regex.Pattern;
  * A second program of the same document, written as plainly as can be: it copies its state
  * for every move that it tries, looks at every move, and reckons each number anew.
  */
-final class Model {
+final class Model implements Face {
     private static final Pattern MOVE = Pattern.compile("([1-5])@(-?[1-6])|(-?[1-6])([io])");
 
     /** A move: a number as for reason(), and a place. */
@@ -237,11 +237,13 @@ final class Model {
         return side < 0 || side > 1;
     }
 
-    int lay(int weight, int place) {
+    @Override
+    public int lay(int weight, int place) {
         return noWeight(weight) || noPlace(place) ? -10001 : move(new Move(weight, place));
     }
 
-    int push(int place, boolean inward) {
+    @Override
+    public int push(int place, boolean inward) {
         return noPlace(place) ? -10001 : move(new Move(inward ? 6 : 7, place));
     }
 
@@ -254,7 +256,8 @@ final class Model {
         return now.turn();
     }
 
-    int play(int depth) {
+    @Override
+    public int play(int depth) {
         if (depth < 1 || depth > 3) {
             return -10002;
         }
@@ -262,7 +265,8 @@ final class Model {
         return best == null ? -10004 : move(best);
     }
 
-    int setBag(int side, int weight, int many) {
+    @Override
+    public int setBag(int side, int weight, int many) {
         if (noSide(side) || noWeight(weight)) {
             return -10001;
         }
@@ -279,7 +283,8 @@ final class Model {
         return before;
     }
 
-    int set(int which, int value) {
+    @Override
+    public int set(int which, int value) {
         if (which < 0 || which > 3) {
             return -10001;
         }
@@ -297,7 +302,8 @@ final class Model {
         return before;
     }
 
-    int setUp(int weight, int place) {
+    @Override
+    public int setUp(int weight, int place) {
         if (noWeight(weight) || noPlace(place)) {
             return -10001;
         }
@@ -311,7 +317,8 @@ final class Model {
         return now.turn();
     }
 
-    int begin() {
+    @Override
+    public int begin() {
         int tokens = now.tokens();
         State then = new State();
         for (int side = 0; side < 2; side++) {
@@ -322,7 +329,8 @@ final class Model {
         return tokens;
     }
 
-    int type(char character) {
+    @Override
+    public int type(char character) {
         if (text.length() == 60) {
             return -10003;
         }
@@ -330,13 +338,15 @@ final class Model {
         return text.length();
     }
 
-    int clearText() {
+    @Override
+    public int clearText() {
         int length = text.length();
         text = "";
         return length;
     }
 
-    int perform() {
+    @Override
+    public int perform() {
         int fault = fault();
         if (fault >= 0) {
             return -10100 - fault;
@@ -389,14 +399,16 @@ final class Model {
         return false;
     }
 
-    int stopped(int what) {
+    @Override
+    public int stopped(int what) {
         if (what < 0 || what > 1) {
             return -10002;
         }
         return stop == null ? -10005 : stop[what];
     }
 
-    int undo() {
+    @Override
+    public int undo() {
         if (history.isEmpty()) {
             return -10005;
         }
@@ -404,12 +416,14 @@ final class Model {
         return history.size();
     }
 
-    int keep() {
+    @Override
+    public int keep() {
         snapshot = now;
         return now.tokens();
     }
 
-    int restore() {
+    @Override
+    public int restore() {
         if (snapshot == null) {
             return -10005;
         }
@@ -417,7 +431,8 @@ final class Model {
         return now.tokens();
     }
 
-    int at(int place, int what) {
+    @Override
+    public int at(int place, int what) {
         if (noPlace(place)) {
             return -10001;
         }
@@ -437,21 +452,24 @@ final class Model {
         }
     }
 
-    int bag(int side, int weight) {
+    @Override
+    public int bag(int side, int weight) {
         if (noSide(side) || weight < 0 || weight > 5) {
             return -10001;
         }
         return weight == 0 ? now.inBag(side) : now.bags[side][weight];
     }
 
-    int reason(int number, int place) {
+    @Override
+    public int reason(int number, int place) {
         if (number < 1 || number > 7) {
             return -10002;
         }
         return noPlace(place) ? -10001 : now.reason(new Move(number, place));
     }
 
-    int possible(int rank) {
+    @Override
+    public int possible(int rank) {
         if (rank < 0) {
             return -10002;
         }
@@ -459,11 +477,13 @@ final class Model {
         return rank >= moves.size() ? -10005 : moves.get(rank).told();
     }
 
-    int look(int depth) {
+    @Override
+    public int look(int depth) {
         return depth < 0 || depth > 3 ? -10002 : now.look(depth);
     }
 
-    int best(int depth) {
+    @Override
+    public int best(int depth) {
         if (depth < 1 || depth > 3) {
             return -10002;
         }
@@ -471,7 +491,8 @@ final class Model {
         return best == null ? -10005 : best.told();
     }
 
-    int levels(int weight) {
+    @Override
+    public int levels(int weight) {
         if (noWeight(weight)) {
             return -10001;
         }
@@ -483,7 +504,8 @@ final class Model {
         return place;
     }
 
-    int made(int back, int what) {
+    @Override
+    public int made(int back, int what) {
         if (back < 0 || what < 0 || what > 3) {
             return -10002;
         }
@@ -493,7 +515,8 @@ final class Model {
         return now.made.get(now.made.size() - 1 - back).part(what);
     }
 
-    int count(int what) {
+    @Override
+    public int count(int what) {
         switch (what) {
             case 0:
                 return now.side;

@@ -56,26 +56,26 @@ public final class PromiseTest {
         CHECK.due(call, got, want);
     }
 
-    private static void counts(String when, TippingBeam x, int first, int... wanted) {
+    private static void counts(String when, LastingBeam x, int first, int... wanted) {
         for (int i = 0; i < wanted.length; i++) {
             due(when + ": count(" + (first + i) + ")", x.count(first + i), wanted[i]);
         }
     }
 
-    private static void write(TippingBeam x, String text) {
+    private static void write(LastingBeam x, String text) {
         x.clearText();
         for (int i = 0; i < text.length(); i++) {
             due("type in " + text, x.type(text.charAt(i)), i + 1);
         }
     }
 
-    private static void performs(TippingBeam x, String text, int wanted) {
+    private static void performs(LastingBeam x, String text, int wanted) {
         write(x, text);
         due("perform of \"" + text + "\"", x.perform(), wanted);
         due("length behind perform of \"" + text + "\"", x.count(16), text.length());
     }
 
-    private static void emptyBag(TippingBeam x, int side) {
+    private static void emptyBag(LastingBeam x, int side) {
         for (int weight = 1; weight <= 5; weight++) {
             x.setBag(side, weight, 0);
         }
@@ -84,7 +84,7 @@ public final class PromiseTest {
     // -- Promise 1
 
     private static void newObject() {
-        TippingBeam x = new TippingBeam();
+        LastingBeam x = new LastingBeam();
         counts("new", x, 0, 0, 0, 0, 0, 0, 0, 0, 0, 60, 30, 0, 2, 8, 0, 0, 0, 0);
         for (int side = 0; side <= 1; side++) {
             due("new: bag all", x.bag(side, 0), 10);
@@ -110,7 +110,7 @@ public final class PromiseTest {
     // -- Promise 2
 
     private static void lay() {
-        TippingBeam x = new TippingBeam();
+        LastingBeam x = new LastingBeam();
         due("lay(2, -3)", x.lay(2, -3), -6);
         due("lay(5, 1)", x.lay(5, 1), -1);
         due("lay(1, 6)", x.lay(1, 6), 5);
@@ -129,7 +129,7 @@ public final class PromiseTest {
         }
         due("nothing changed", x.count(3), 4);
 
-        TippingBeam y = new TippingBeam();
+        LastingBeam y = new LastingBeam();
         y.setBag(0, 3, 0);
         due("none in the bag", y.lay(3, 1), NO_MOVE - 2);
         due("the side 0 still", y.count(0), 0);
@@ -144,7 +144,7 @@ public final class PromiseTest {
     }
 
     private static void layOnFullPlaces() {
-        TippingBeam x = new TippingBeam();
+        LastingBeam x = new LastingBeam();
         x.lay(1, 1);
         x.lay(2, 1);
         due("full", x.lay(1, 1), NO_MOVE - 4);
@@ -166,7 +166,7 @@ public final class PromiseTest {
     // -- Promise 3
 
     private static void push() {
-        TippingBeam x = new TippingBeam();
+        LastingBeam x = new LastingBeam();
         x.set(2, 1);
         x.lay(3, 1);
         x.lay(2, 1);
@@ -199,7 +199,7 @@ public final class PromiseTest {
     }
 
     private static void pushReasons() {
-        TippingBeam x = new TippingBeam();
+        LastingBeam x = new LastingBeam();
         due("not by the setting, and nothing there", x.push(1, true), NO_MOVE - 2);
         x.set(2, 1);
         due("nothing there", x.push(1, true), NO_MOVE - 3);
@@ -229,7 +229,7 @@ public final class PromiseTest {
         x.setUp(1, 6);
         due("no move was made behind begin", x.push(6, true), 5);
 
-        TippingBeam y = new TippingBeam();
+        LastingBeam y = new LastingBeam();
         y.set(2, 1);
         y.lay(1, 1);
         y.lay(1, 2);
@@ -246,7 +246,7 @@ public final class PromiseTest {
     }
 
     private static void leftOut() {
-        TippingBeam x = new TippingBeam();
+        LastingBeam x = new LastingBeam();
         emptyBag(x, 1);
         due("setBag changes no side", x.count(0), 0);
         x.lay(1, 1);
@@ -260,7 +260,7 @@ public final class PromiseTest {
         due("it can move", x.push(-1, false), 1);
         due("back to 0", x.count(0), 0);
 
-        TippingBeam y = new TippingBeam();
+        LastingBeam y = new LastingBeam();
         emptyBag(y, 0);
         emptyBag(y, 1);
         y.setBag(0, 1, 1);
@@ -268,7 +268,7 @@ public final class PromiseTest {
         due("the latest token: the other one is to move", y.count(0), 1);
         due("drawn", y.count(2), 3);
 
-        TippingBeam z = new TippingBeam();
+        LastingBeam z = new LastingBeam();
         emptyBag(z, 0);
         due("the side 0 begins without any", z.count(0), 0);
         due("no move", z.count(8), 0);
@@ -279,7 +279,7 @@ public final class PromiseTest {
     // -- Promise 4
 
     private static void play() {
-        TippingBeam x = new TippingBeam();
+        LastingBeam x = new LastingBeam();
         due("play(0)", x.play(0), BAD_VALUE);
         due("play(4)", x.play(4), BAD_VALUE);
         due("play(-1)", x.play(-1), BAD_VALUE);
@@ -301,12 +301,12 @@ public final class PromiseTest {
         due("play", x.play(1), 0);
         due("it lies there", x.at(-6, 2), 1);
 
-        TippingBeam y = new TippingBeam();
+        LastingBeam y = new LastingBeam();
         emptyBag(y, 0);
         due("none", y.play(1), NOT_POSSIBLE);
         due("bad value first", y.play(4), BAD_VALUE);
         due("none is recorded", y.count(15), 4);
-        TippingBeam z = new TippingBeam();
+        LastingBeam z = new LastingBeam();
         z.setUp(5, 5);
         due("over", z.play(3), NOT_POSSIBLE);
         due("none is recorded", z.count(15), 1);
@@ -315,7 +315,7 @@ public final class PromiseTest {
     // -- Promise 5
 
     private static void setBag() {
-        TippingBeam x = new TippingBeam();
+        LastingBeam x = new LastingBeam();
         due("setBag", x.setBag(0, 5, 6), 2);
         due("bag", x.bag(0, 5), 6);
         due("bag all", x.bag(0, 0), 14);
@@ -346,7 +346,7 @@ public final class PromiseTest {
     // -- Promise 6
 
     private static void set() {
-        TippingBeam x = new TippingBeam();
+        LastingBeam x = new LastingBeam();
         int[] first = {2, 8, 0, 0};
         int[] least = {1, 0, 0, 0};
         int[] most = {4, 40, 1, 1};
@@ -370,7 +370,7 @@ public final class PromiseTest {
     }
 
     private static void settingsAtAnyTime() {
-        TippingBeam x = new TippingBeam();
+        LastingBeam x = new LastingBeam();
         x.lay(1, 5);
         x.lay(1, -2);
         due("another limit", x.set(1, 2), 8);
@@ -385,14 +385,14 @@ public final class PromiseTest {
         due("moves again", x.count(8) > 0 ? 1 : 0, 1);
         due("history of four", x.count(15), 4);
 
-        TippingBeam y = new TippingBeam();
+        LastingBeam y = new LastingBeam();
         due("setUp", y.setUp(5, 2), 10);
         due("no move: 1 loses", y.count(2), 1);
         y.set(3, 1);
         due("no move: 1 wins", y.count(2), 2);
         due("look for 0", y.look(3), -1);
 
-        TippingBeam z = new TippingBeam();
+        LastingBeam z = new LastingBeam();
         z.lay(1, 1);
         z.setUp(5, 2);
         due("0 made the last move", z.count(2), 2);
@@ -404,7 +404,7 @@ public final class PromiseTest {
     // -- Promise 7
 
     private static void setUp() {
-        TippingBeam x = new TippingBeam();
+        LastingBeam x = new LastingBeam();
         due("setUp(3, 2)", x.setUp(3, 2), 6);
         due("no side moves", x.count(0), 0);
         due("no move", x.count(3), 0);
@@ -437,7 +437,7 @@ public final class PromiseTest {
     // -- Promise 8
 
     private static void begin() {
-        TippingBeam x = new TippingBeam();
+        LastingBeam x = new LastingBeam();
         due("begin on the empty beam", x.begin(), 0);
         due("is an act", x.count(15), 1);
         x.set(1, 30);
@@ -478,7 +478,7 @@ public final class PromiseTest {
     // -- Promises 9 and 10
 
     private static void type() {
-        TippingBeam x = new TippingBeam();
+        LastingBeam x = new LastingBeam();
         for (int i = 1; i <= 60; i++) {
             due("type", x.type((char) (i * 1000)), i);
         }
@@ -491,7 +491,7 @@ public final class PromiseTest {
     }
 
     private static void clearText() {
-        TippingBeam x = new TippingBeam();
+        LastingBeam x = new LastingBeam();
         due("empty", x.clearText(), 0);
         write(x, "1@1");
         due("clearText", x.clearText(), 3);
@@ -511,7 +511,7 @@ public final class PromiseTest {
     // -- Promise 11
 
     private static void perform() {
-        TippingBeam x = new TippingBeam();
+        LastingBeam x = new LastingBeam();
         performs(x, "1@6", 1);
         due("turn", x.count(1), 6);
         performs(x, "2@-3;5@1", 2);
@@ -540,7 +540,7 @@ public final class PromiseTest {
         // A fault comes ahead of a stop.
         performs(x, "1@1;", FAULT - 4);
 
-        TippingBeam y = new TippingBeam();
+        LastingBeam y = new LastingBeam();
         y.set(1, 40);
         y.set(0, 4);
         y.setBag(0, 1, 6);
@@ -567,7 +567,7 @@ public final class PromiseTest {
     }
 
     private static void faults() {
-        TippingBeam x = new TippingBeam();
+        LastingBeam x = new LastingBeam();
         x.set(2, 1);
         String[] texts = {"", "-", "1", "6", "1@", "1@-", "1@1;", "-6", "1i;", "1i;-", "1@-3;5",
             "0", "7", "8@1", "@", "i", "o", ";", " ", "--1i", "-0i", "-7i", "-@", "-i",
@@ -597,7 +597,7 @@ public final class PromiseTest {
 
     /** What was read of one text does not colour the next one. */
     private static void textAfterText() {
-        TippingBeam x = new TippingBeam();
+        LastingBeam x = new LastingBeam();
         performs(x, "-1", FAULT - 2);
         performs(x, "1@1", 1);
         due("laid onto 1", x.at(1, 0), 1);
@@ -611,7 +611,7 @@ public final class PromiseTest {
     // -- Promise 12
 
     private static void stopped() {
-        TippingBeam x = new TippingBeam();
+        LastingBeam x = new LastingBeam();
         due("none yet", x.stopped(0), NONE);
         due("none yet, for the reason", x.stopped(1), NONE);
         due("bad value first", x.stopped(2), BAD_VALUE);
@@ -642,7 +642,7 @@ public final class PromiseTest {
     // -- Promise 13
 
     private static void undo() {
-        TippingBeam x = new TippingBeam();
+        LastingBeam x = new LastingBeam();
         due("nothing", x.undo(), NONE);
         x.lay(1, 1);
         x.lay(1, 2);
@@ -672,7 +672,7 @@ public final class PromiseTest {
     }
 
     private static void historyOfActs() {
-        TippingBeam x = new TippingBeam();
+        LastingBeam x = new LastingBeam();
         x.keep();
         due("keep", x.count(15), 0);
         x.set(2, 1);
@@ -716,7 +716,7 @@ public final class PromiseTest {
     // -- Promises 14 and 15
 
     private static void keepAndRestore() {
-        TippingBeam x = new TippingBeam();
+        LastingBeam x = new LastingBeam();
         due("no snapshot", x.restore(), NONE);
         due("keep the empty beam", x.keep(), 0);
         due("no act", x.count(15), 0);
@@ -754,7 +754,7 @@ public final class PromiseTest {
 
     /** Moves that are made behind the snapshot take the room of those in it. */
     private static void restoreOfMoves() {
-        TippingBeam x = new TippingBeam();
+        LastingBeam x = new LastingBeam();
         x.set(1, 9);
         x.set(2, 1);
         x.setUp(1, 1);
@@ -791,7 +791,7 @@ public final class PromiseTest {
     // -- Promise 16
 
     private static void at() {
-        TippingBeam x = new TippingBeam();
+        LastingBeam x = new LastingBeam();
         x.setUp(3, -4);
         x.setUp(5, -4);
         x.setUp(2, 6);
@@ -813,7 +813,7 @@ public final class PromiseTest {
     // -- Promise 17
 
     private static void bag() {
-        TippingBeam x = new TippingBeam();
+        LastingBeam x = new LastingBeam();
         x.setBag(1, 3, 6);
         due("bag(1, 3)", x.bag(1, 3), 6);
         due("bag(1, 0)", x.bag(1, 0), 14);
@@ -834,7 +834,7 @@ public final class PromiseTest {
     // -- Promise 18
 
     private static void reason() {
-        TippingBeam x = new TippingBeam();
+        LastingBeam x = new LastingBeam();
         due("laying", x.reason(1, 1), 0);
         due("moving", x.reason(6, 1), 2);
         due("moving", x.reason(7, 1), 2);
@@ -874,7 +874,7 @@ public final class PromiseTest {
     // -- Promise 19
 
     private static void possible() {
-        TippingBeam x = new TippingBeam();
+        LastingBeam x = new LastingBeam();
         int rank = 0;
         for (int weight = 1; weight <= 5; weight++) {
             for (int place = -6; place <= 6; place++) {
@@ -912,7 +912,7 @@ public final class PromiseTest {
     // -- Promise 20
 
     private static void look() {
-        TippingBeam x = new TippingBeam();
+        LastingBeam x = new LastingBeam();
         for (int depth = 0; depth <= 3; depth++) {
             due("look(" + depth + ")", x.look(depth), 0);
         }
@@ -929,7 +929,7 @@ public final class PromiseTest {
         due("0 has won, 1 is to move", x.look(0), -1);
         due("over with each depth", x.look(3), -1);
 
-        TippingBeam y = new TippingBeam();
+        LastingBeam y = new LastingBeam();
         y.set(1, 0);
         due("each move tips", y.look(0), 0);
         due("each move tips", y.look(1), -1);
@@ -944,7 +944,7 @@ public final class PromiseTest {
 
     /** Bags with few tokens, of which the end can be told by hand. */
     private static void lookTurnsRound() {
-        TippingBeam x = new TippingBeam();
+        LastingBeam x = new LastingBeam();
         emptyBag(x, 0);
         emptyBag(x, 1);
         x.setBag(0, 1, 1);
@@ -959,7 +959,7 @@ public final class PromiseTest {
         due("with 1 tipping and winning", x.look(2), 1);
         due("0 tips first", x.best(2), 147);
 
-        TippingBeam y = new TippingBeam();
+        LastingBeam y = new LastingBeam();
         emptyBag(y, 0);
         emptyBag(y, 1);
         y.setBag(0, 1, 2);
@@ -977,7 +977,7 @@ public final class PromiseTest {
     }
 
     private static void lookChangesNothing() {
-        TippingBeam x = new TippingBeam();
+        LastingBeam x = new LastingBeam();
         x.set(2, 1);
         x.lay(2, 3);
         x.lay(1, -6);
@@ -1006,7 +1006,7 @@ public final class PromiseTest {
     }
 
     private static void lookAtOneMove() {
-        TippingBeam x = new TippingBeam();
+        LastingBeam x = new LastingBeam();
         x.set(0, 1);
         x.set(1, 40);
         for (int place = -5; place <= 6; place++) {
@@ -1026,7 +1026,7 @@ public final class PromiseTest {
         due("it is the best all the same", x.best(3), 144);
     }
 
-    private static String all(TippingBeam x) {
+    private static String all(LastingBeam x) {
         StringBuilder all = new StringBuilder();
         for (int what = 0; what <= 16; what++) {
             all.append(x.count(what)).append(' ');
@@ -1048,7 +1048,7 @@ public final class PromiseTest {
     // -- Promise 21
 
     private static void best() {
-        TippingBeam x = new TippingBeam();
+        LastingBeam x = new LastingBeam();
         due("the nearest to 0, the first of them", x.best(1), 149);
         due("best(0)", x.best(0), BAD_VALUE);
         due("best(4)", x.best(4), BAD_VALUE);
@@ -1060,7 +1060,7 @@ public final class PromiseTest {
         x.setBag(1, 1, 0);
         due("level, the first of them", x.best(1), 247);
 
-        TippingBeam y = new TippingBeam();
+        LastingBeam y = new LastingBeam();
         y.set(3, 1);
         due("tips as little as it can: 3 times -3", y.best(1), 347);
         y.set(1, 11);
@@ -1073,7 +1073,7 @@ public final class PromiseTest {
         emptyBag(y, 0);
         due("no move", y.best(3), NONE);
 
-        TippingBeam z = new TippingBeam();
+        LastingBeam z = new LastingBeam();
         emptyBag(z, 0);
         emptyBag(z, 1);
         z.setBag(0, 1, 1);
@@ -1095,7 +1095,7 @@ public final class PromiseTest {
 
     /** The look ahead comes ahead of the turn. */
     private static void bestByWorth() {
-        TippingBeam x = new TippingBeam();
+        LastingBeam x = new LastingBeam();
         emptyBag(x, 0);
         emptyBag(x, 1);
         x.setBag(0, 1, 1);
@@ -1134,7 +1134,7 @@ public final class PromiseTest {
     // -- Promise 22
 
     private static void levels() {
-        TippingBeam x = new TippingBeam();
+        LastingBeam x = new LastingBeam();
         for (int weight = 1; weight <= 5; weight++) {
             due("level already", x.levels(weight), NONE);
         }
@@ -1170,7 +1170,7 @@ public final class PromiseTest {
     // -- Promise 23
 
     private static void made() {
-        TippingBeam x = new TippingBeam();
+        LastingBeam x = new LastingBeam();
         due("none", x.made(0, 0), NONE);
         due("back -1", x.made(-1, 0), BAD_VALUE);
         due("what 4", x.made(0, 4), BAD_VALUE);
@@ -1190,7 +1190,7 @@ public final class PromiseTest {
         due("far too many", x.made(Integer.MAX_VALUE, 3), NONE);
         due("back min", x.made(Integer.MIN_VALUE, 3), BAD_VALUE);
 
-        TippingBeam y = new TippingBeam();
+        LastingBeam y = new LastingBeam();
         y.set(2, 1);
         y.setUp(1, 1);
         y.setUp(2, -4);
@@ -1222,7 +1222,7 @@ public final class PromiseTest {
     // -- Promise 24
 
     private static void count() {
-        TippingBeam x = new TippingBeam();
+        LastingBeam x = new LastingBeam();
         x.setUp(2, -2);
         x.lay(1, 3);
         x.lay(5, 1);
@@ -1249,7 +1249,7 @@ public final class PromiseTest {
     }
 
     private static void safeMoves() {
-        TippingBeam x = new TippingBeam();
+        LastingBeam x = new LastingBeam();
         emptyBag(x, 0);
         x.setBag(0, 3, 1);
         x.set(2, 1);
@@ -1270,7 +1270,7 @@ public final class PromiseTest {
         due("and that is safe", x.count(9), 1);
     }
 
-    private static int safeByHand(TippingBeam x) {
+    private static int safeByHand(LastingBeam x) {
         int safe = 0;
         for (int weight = 1; weight <= 5; weight++) {
             for (int place = -6; place <= 6; place++) {
@@ -1285,7 +1285,7 @@ public final class PromiseTest {
     // -- The end
 
     private static void drawn() {
-        TippingBeam x = new TippingBeam();
+        LastingBeam x = new LastingBeam();
         emptyBag(x, 0);
         due("one bag is not both", x.count(2), 0);
         emptyBag(x, 1);
@@ -1308,7 +1308,7 @@ public final class PromiseTest {
     }
 
     private static void whoLoses() {
-        TippingBeam x = new TippingBeam();
+        LastingBeam x = new LastingBeam();
         due("tips", x.lay(5, -2), -10);
         due("0 loses", x.count(2), 2);
         due("1 is to move", x.count(0), 1);
