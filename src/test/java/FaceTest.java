@@ -25,7 +25,7 @@ public final class FaceTest {
 
     private static final String[] FORBIDDEN = {
         "\\b(throw|throws|try|catch|finally|synchronized|assert|import|package|protected|volatile|native)\\b",
-        "->", "::", "\\bExact\\(", "@Override", "\\bnew Object\\b", "\\bequals\\b",
+        "->", "::", "Exact\\(", "@Override", "\\bnew Object\\b", "\\bequals\\b",
         "\\bhashCode\\b", "\\btoString\\b", "\\bstatic\\s*\\{", "\\bSystem\\.(?!arraycopy)", "\\bRandom\\b",
         "\\bThread\\b", "\\bwhile\\s*\\(\\s*true\\s*\\)", "\\bfor\\s*\\(\\s*;", "\"\\s*\\+|\\+\\s*\""};
 

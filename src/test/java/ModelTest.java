@@ -7,6 +7,7 @@ public final class ModelTest {
     private static final int CALLS = 400;
     // A run ends while one object can still make all of its changes, and answer behind them.
     private static final int MOST_CHANGES = 320;
+    private static final int WIDE_LOOKS = 40;
     private static final int[] ODD = {-1, 0, 7, 8, -7, 41, 100, Integer.MIN_VALUE, Integer.MAX_VALUE};
 
     private final Check check;
@@ -29,7 +30,26 @@ public final class ModelTest {
         for (int seed = 0; seed < RUNS && !check.isWrong(); seed++) {
             new ModelTest(check, seed).callAll();
         }
+        for (int seed = 0; seed < WIDE_LOOKS && !check.isWrong(); seed++) {
+            new ModelTest(check, RUNS + seed).lookAtMany();
+        }
         check.end("ModelTest");
+    }
+
+    /** Looks as far ahead as can be where many moves are possible. */
+    private void lookAtMany() {
+        set(0, any(1, 4));
+        set(1, oneIn(3) ? any(3, 15) : any(0, 40));
+        set(2, random.nextInt(2));
+        set(3, oneIn(4) ? 1 : 0);
+        for (int i = any(0, 12); i > 0; i--) {
+            move();
+        }
+        for (int depth = 0; depth <= 3; depth++) {
+            due("look(" + depth + ")", beam.look(depth), model.look(depth));
+            due("best(" + depth + ")", beam.best(depth), model.best(depth));
+        }
+        due("play(3)", beam.play(3), model.play(3));
     }
 
     private void callAll() {

@@ -33,6 +33,7 @@ public final class TermsTest {
         bagsAndLimitAtAnyTime();
         lookBehindTheEnd();
         lookAtTheSameSide();
+        lookMakesNoMove();
         orderOfMoves();
         theFirstOfSeveral();
         toldTogetherIsKeptForAll();
@@ -336,8 +337,13 @@ public final class TermsTest {
         x.undo();
         due("held again", x.reason(7, 2), 3);
         x.begin();
-        x.setUp(1, 2);
-        due("begun", x.reason(7, 2), 0);
+        for (int place : PLACES) {
+            x.setUp(1, place);
+        }
+        for (int place : PLACES) {
+            due("begun: inward from " + place, x.reason(6, place), 0);
+            due("begun: outward from " + place, x.reason(7, place), Math.abs(place) == 6 ? 4 : 0);
+        }
     }
 
     /** What each side has left behind a laying by the side 0, the setting 2, and who is to move. */
@@ -589,6 +595,32 @@ public final class TermsTest {
         due("but by the second one", x.look(2), 1);
         x.setBag(1, 1, 1);
         due("the other side would", x.look(2), -1);
+    }
+
+    /** Behind each look ahead the latest move is the one that was made. */
+    private static void lookMakesNoMove() {
+        for (int depth = 1; depth <= 3; depth++) {
+            for (int moves = 1; moves <= 3; moves++) {
+                LastingBeam x = new LastingBeam();
+                x.set(2, 1);
+                x.lay(1, 1);
+                if (moves > 1) {
+                    x.lay(1, 1);
+                }
+                if (moves > 2) {
+                    x.push(1, false);
+                }
+                x.keepAll(true);
+                due("one look", x.look(depth), 0);
+                x.best(depth);
+                x.keepAll(false);
+                due("moves so far", x.count(3), moves);
+                due("to move", x.count(0), moves % 2);
+                due("moved just before", x.reason(7, 2), 3);
+                x.set(1, 0);
+                due("it is that which tips", x.count(2), moves % 2 == 1 ? 2 : 1);
+            }
+        }
     }
 
     private static void orderOfMoves() {
