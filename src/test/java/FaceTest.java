@@ -21,7 +21,8 @@ public final class FaceTest {
         "undo()", "keep()", "restore()", "at(int,int)", "bag(int,int)", "reason(int,int)",
         "possible(int)", "look(int)", "best(int)", "levels(int)", "made(int,int)", "count(int)"};
     private static final String[] CONSTANTS = {
-        "UNKNOWN", "BAD_VALUE", "FULL", "NOT_POSSIBLE", "NONE", "NO_MOVE"};
+        "UNKNOWN -10001", "BAD_VALUE -10002", "FULL -10003", "NOT_POSSIBLE -10004", "NONE -10005",
+        "NO_MOVE -10010"};
 
     private static final String[] FORBIDDEN = {
         "\\b(throw|throws|try|catch|finally|synchronized|assert|import|package|protected|volatile|native)\\b",
@@ -33,7 +34,7 @@ public final class FaceTest {
 
     private static final Check CHECK = new Check();
 
-    public static void main(String[] args) throws IOException {
+    public static void main(String[] args) throws IOException, IllegalAccessException {
         face();
         membersInside();
         String source = withoutComments(Files.readString(SOURCE));
@@ -47,8 +48,10 @@ public final class FaceTest {
         CHECK.due(what, holds ? 1 : 0, 1);
     }
 
-    private static void face() {
+    private static void face() throws IllegalAccessException {
         Class<?> c = TippingBeam.class;
+        holds("a class of its own", c.getSuperclass() == Object.class && c.getInterfaces().length == 0
+                && c.getPackageName().isEmpty());
         holds("public and final", Modifier.isPublic(c.getModifiers()) && Modifier.isFinal(c.getModifiers()));
         Set<String> shown = new TreeSet<>();
         for (Method m : c.getDeclaredMethods()) {
@@ -64,7 +67,8 @@ public final class FaceTest {
         for (Field f : c.getDeclaredFields()) {
             if (!Modifier.isPrivate(f.getModifiers())) {
                 holds(f + " is a constant", f.getModifiers() == (Modifier.PUBLIC | Modifier.STATIC | Modifier.FINAL));
-                shown.add(f.getName());
+                holds(f + " is an int", f.getType() == int.class);
+                shown.add(f.getName() + " " + f.get(null));
             }
         }
         holds("the constants are " + shown, shown.equals(new TreeSet<>(Arrays.asList(CONSTANTS))));

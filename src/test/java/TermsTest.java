@@ -17,6 +17,7 @@ public final class TermsTest {
     public static void main(String[] args) {
         eachPlaceHoldsItsOwn();
         asManyAsTheSettingTells();
+        placesKeepWhatTheyHold();
         oneAboveTheOther();
         levelAndTipped();
         tippedByAMove();
@@ -33,6 +34,8 @@ public final class TermsTest {
         bagsAndLimitAtAnyTime();
         lookBehindTheEnd();
         lookAtTheSameSide();
+        bestForTheSameSide();
+        noMoveBehindAMove();
         lookMakesNoMove();
         orderOfMoves();
         theFirstOfSeveral();
@@ -46,6 +49,7 @@ public final class TermsTest {
         whatAStateLeavesOut();
         undoOfRestoreAndBegin();
         theLatestStop();
+        eachObjectHasItsOwn();
         allCallsThatArePromised();
         CHECK.end("TermsTest");
     }
@@ -120,6 +124,42 @@ public final class TermsTest {
                 }
             }
         }
+    }
+
+    /** Places that hold more than the setting 0 tells: none comes onto them, but theirs can go. */
+    private static void placesKeepWhatTheyHold() {
+        LastingBeam x = new LastingBeam();
+        x.set(0, 4);
+        x.set(1, 40);
+        x.set(2, 1);
+        for (int weight = 1; weight <= 4; weight++) {
+            x.setUp(weight, 2);
+        }
+        x.set(0, 1);
+        due("four are kept", x.at(2, 0), 4);
+        due("none is laid onto them", x.lay(1, 2), NO_MOVE - 4);
+        due("none is set up on them", x.setUp(1, 2), FULL);
+        due("the uppermost one goes inward", x.push(2, true), 16);
+        due("three are left", x.at(2, 0), 3);
+        due("1 is full now", x.push(2, true), NO_MOVE - 4);
+        due("the next one goes outward", x.push(2, false), 19);
+        due("two are left", x.at(2, 0), 2);
+        due("that is more than one still, for moving", x.push(1, false), NO_MOVE - 4);
+        due("for laying", x.lay(1, 2), NO_MOVE - 4);
+        due("three can lie", x.set(0, 3), 1);
+        due("a third one", x.lay(1, 2), 21);
+        due("not a fourth one", x.lay(1, 2), NO_MOVE - 4);
+
+        LastingBeam y = new LastingBeam();
+        y.setUp(1, 2);
+        y.setUp(1, 2);
+        y.setUp(4, -2);
+        due("a 2 at 2 would level it, but 2 is full", y.levels(2), NONE);
+        y.set(0, 1);
+        due("2 holds more than it can", y.levels(2), NONE);
+        due("1 is free", y.levels(4), 1);
+        y.set(0, 3);
+        due("2 is not full", y.levels(2), 2);
     }
 
     /** The number of the move from a place to the one beside it. */
@@ -597,6 +637,68 @@ public final class TermsTest {
         due("the other side would", x.look(2), -1);
     }
 
+    /** Where the other side is left out, a move is best if the same side wins by its next one. */
+    private static void bestForTheSameSide() {
+        LastingBeam x = new LastingBeam();
+        emptyBag(x, 0);
+        emptyBag(x, 1);
+        x.setBag(0, 1, 2);
+        x.set(1, 10);
+        x.set(3, 1);
+        x.setUp(2, 2);
+        due("one move does not tip it", x.look(1), 0);
+        due("it levels it", x.best(1), 146);
+        for (int depth = 2; depth <= 3; depth++) {
+            due("two tip it, from 1 outward and at 6", x.look(depth), 1);
+            due("1 is the nearest of those", x.best(depth), 151);
+        }
+        due("played", x.play(2), 5);
+        due("the side 0 again", x.count(0), 0);
+        due("at 6 alone it tips", x.best(1), 156);
+        due("played", x.play(1), 11);
+        due("the side 0 has won", x.count(2), 1);
+        x.undo();
+        x.set(3, 0);
+        due("who tips loses: the nearest that does not", x.best(1), 145);
+        due("nothing is lost", x.look(1), 0);
+    }
+
+    /** A side that is to move and cannot: neither wins by that. */
+    private static void noMoveBehindAMove() {
+        LastingBeam x = new LastingBeam();
+        emptyBag(x, 0);
+        emptyBag(x, 1);
+        x.setBag(0, 5, 1);
+        x.set(1, 1);
+        x.set(2, 1);
+        x.setUp(1, 1);
+        due("a 5 onto each place, and the 1 both ways", x.count(8), 14);
+        due("the 1 inward is safe", x.count(9), 1);
+        for (int depth = 1; depth <= 3; depth++) {
+            due("it is no win", x.look(depth), 0);
+            due("but the best", x.best(depth), 651);
+        }
+        due("moved", x.push(1, true), -1);
+        due("the side 1 is to move", x.count(0), 1);
+        due("it goes on", x.count(2), 0);
+        due("no move", x.count(8), 0);
+        due("no move", x.possible(0), NONE);
+        due("the only token was moved just before", x.reason(6, -1), 3);
+        due("its bag is empty", x.reason(5, 2), 2);
+        for (int wins = 0; wins <= 1; wins++) {
+            x.set(3, wins);
+            for (int depth = 0; depth <= 3; depth++) {
+                due("look", x.look(depth), 0);
+            }
+            due("best", x.best(3), NONE);
+            due("play", x.play(3), NOT_POSSIBLE);
+        }
+        x.setBag(1, 1, 1);
+        due("a token more", x.count(8), 12);
+        due("each tips it but those at 1 and 2", x.count(9), 2);
+        due("who tips wins", x.look(1), 1);
+    }
+
     /** Behind each look ahead the latest move is the one that was made. */
     private static void lookMakesNoMove() {
         for (int depth = 1; depth <= 3; depth++) {
@@ -938,6 +1040,36 @@ public final class TermsTest {
         due("another one", x.stopped(0), 0);
         due("no moving", x.stopped(1), 2);
         due("it changed nothing else", x.count(15), 0);
+    }
+
+    /** What is called on one object changes nothing of another one. */
+    private static void eachObjectHasItsOwn() {
+        TippingBeam x = new TippingBeam();
+        TippingBeam y = new TippingBeam();
+        due("x: lay", x.lay(5, 1), 5);
+        due("y: lay", y.lay(1, -2), -2);
+        due("x: keep", x.keep(), 1);
+        due("y: no snapshot", y.restore(), NONE);
+        due("x: type", x.type('1'), 1);
+        due("y: type", y.type('1'), 1);
+        due("y: type", y.type('i'), 2);
+        due("y: perform", y.perform(), NOT_POSSIBLE);
+        due("y: stopped", y.stopped(1), 2);
+        due("x: perform", x.perform(), FAULT - 1);
+        due("x: not stopped", x.stopped(1), NONE);
+        due("y: set", y.set(1, 3), 8);
+        due("x: the limit", x.count(12), 8);
+        due("x: setBag", x.setBag(1, 4, 0), 2);
+        due("y: the bag", y.bag(1, 4), 2);
+        due("y: undo", y.undo(), 1);
+        due("x: the history", x.count(15), 2);
+        due("x: moved", x.made(0, 2), 1);
+        due("y: moved", y.made(0, 2), -2);
+        due("x: begin", x.begin(), 1);
+        due("y: its token", y.at(-2, 2), 1);
+        due("x: restore", x.restore(), 1);
+        due("y: tokens", y.count(6), 1);
+        due("y: turn", y.count(1), -2);
     }
 
     /** The 512th call of an object is answered as the first one, also behind very many moves. */
